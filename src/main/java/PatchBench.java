@@ -1915,16 +1915,17 @@ public final class PatchBench {
         static final int MOST_ORDERED = 4;
         /** So many orders of four patches there are. */
         private static final int MOST_ORDERS = 24;
+        private static final int BITS = 3;
+        private static final int PLACE_MASK = (1 << BITS) - 1;
 
         private final Combiner combiner;
         private final Patch[] group;
         private final Patch[] tried;
-        /** The orders found: each as a number of digits, the order it came from, and the move from there. */
+        /** The orders found: the code of each, the order that it came from, and the move from there. */
         private final Row codes;
         private final Row parents;
         private final Row moves;
         private final Row path;
-        private final Row order;
 
         Trials(Combiner shared) {
             combiner = shared;
@@ -1934,7 +1935,6 @@ public final class PatchBench {
             parents = new Row(MOST_ORDERS);
             moves = new Row(MOST_ORDERS);
             path = new Row(MOST_ORDERS);
-            order = new Row(MOST_ORDERED);
         }
 
         // ---- what a patch needs
@@ -1984,10 +1984,13 @@ public final class PatchBench {
             codes.wipe();
             parents.wipe();
             moves.wipe();
-            begin(pile);
-            noteOrder(NONE, NONE);
+            noteOrder(firstCode(pile.count), NONE, NONE);
             for (int i = 0; i < MOST_ORDERS && i < codes.size(); i++) {
                 for (int k = 0; k + 1 < pile.count; k++) {
+                    int code = exchangedCode(codes.at(i), k);
+                    if (codes.find(code, 0) != NONE) {
+                        continue;
+                    }
                     replay(pile, i);
                     if (!combiner.exchange(tried, k, WIDE)) {
                         continue;
@@ -1995,19 +1998,32 @@ public final class PatchBench {
                     if (!hasTextOf(pile)) {
                         return NONE;
                     }
-                    order.exchangeWithNext(k);
-                    noteOrder(i, k);
+                    noteOrder(code, i, k);
                 }
             }
             return codes.size();
         }
 
-        private void begin(Pile pile) {
-            order.wipe();
-            for (int k = 0; k < pile.count && k < pile.layers.length && k < tried.length; k++) {
-                tried[k].becomes(pile.layers[k]);
-                order.add(k + 1);
+        /** A code has some bits for each place, the lowest ones for the lowest patch. */
+        private static int firstCode(int count) {
+            int code = 0;
+            for (int k = 0; k < count; k++) {
+                code |= k << BITS * k;
             }
+            return code;
+        }
+
+        private static int exchangedCode(int code, int k) {
+            int lower = code >> BITS * k;
+            int upper = code >> BITS * (k + 1);
+            int change = (lower ^ upper) & PLACE_MASK;
+            return code ^ change << BITS * k ^ change << BITS * (k + 1);
+        }
+
+        private void noteOrder(int code, int parent, int move) {
+            codes.add(code);
+            parents.add(parent);
+            moves.add(move);
         }
 
         private boolean hasTextOf(Pile pile) {
@@ -2015,21 +2031,11 @@ public final class PatchBench {
             return last != null && last.after.sameAs(pile.text());
         }
 
-        private void noteOrder(int parent, int move) {
-            int code = 0;
-            for (int k = 0; k < order.size(); k++) {
-                code = 10 * code + order.at(k);
-            }
-            if (codes.find(code, 0) == NONE) {
-                codes.add(code);
-                parents.add(parent);
-                moves.add(move);
-            }
-        }
-
         /** Brings the tried patches into an order that was found, by the moves that led there. */
         private void replay(Pile pile, int found) {
-            begin(pile);
+            for (int k = 0; k < pile.count && k < pile.layers.length && k < tried.length; k++) {
+                tried[k].becomes(pile.layers[k]);
+            }
             path.wipe();
             int at = found;
             for (int i = 0; i < MOST_ORDERS && at > 0; i++) {
@@ -2037,9 +2043,7 @@ public final class PatchBench {
                 at = parents.at(at);
             }
             for (int i = path.size() - 1; i >= 0; i--) {
-                if (combiner.exchange(tried, path.at(i), WIDE)) {
-                    order.exchangeWithNext(path.at(i));
-                }
+                combiner.exchange(tried, path.at(i), WIDE);
             }
         }
     }
