@@ -649,14 +649,14 @@ public final class PatchBench {
 
         void addAll(Row from, int start, int end) {
             for (int i = Math.max(0, start); i < end && i < from.size; i++) {
-                add(from.values[i]);
+                add(from.at(i));
             }
         }
 
         void becomes(Row other) {
-            if (other != this) {
-                wipe();
-                addAll(other, 0, other.size);
+            size = Math.min(other.size, values.length);
+            for (int i = 0; i < size && i < other.values.length; i++) {
+                values[i] = other.values[i];
             }
         }
 

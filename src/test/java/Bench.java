@@ -2,7 +2,7 @@
 final class Bench {
     final PatchBench bench = new PatchBench();
 
-    PatchBench text(int text, int... lines) {
+    PatchBench fill(int text, int... lines) {
         while (bench.length(text) > 0) {
             bench.cut(text, 0);
         }
@@ -21,8 +21,8 @@ final class Bench {
     }
 
     int make(int way, int[] before, int[] after) {
-        text(0, before);
-        text(1, after);
+        fill(0, before);
+        fill(1, after);
         return bench.make(0, 1, way);
     }
 
@@ -93,11 +93,11 @@ final class Bench {
 
     /** Makes a patch from the text of the stack to these lines and pushes it; answers its name. */
     int pushTo(int way, int... lines) {
-        text(2);
+        fill(2);
         for (int i = 0; bench.top(i) != PatchBench.NONE; i++) {
             bench.put(2, i, bench.top(i));
         }
-        text(3, lines);
+        fill(3, lines);
         return bench.push(bench.make(2, 3, way));
     }
 
@@ -109,7 +109,7 @@ final class Bench {
         return all.toString();
     }
 
-    PatchBench row(int row, int... bytes) {
+    PatchBench fillRow(int row, int... bytes) {
         bench.clear(row);
         for (int value : bytes) {
             bench.addByte(row, value);

@@ -62,7 +62,7 @@ public final class TextsTest {
 
     private static void aTextHasRoomForSixteenLines() {
         Bench b = new Bench();
-        b.text(3, 1, 2, 3, 4, 5, 6, 7, 8, 9, 11, 12, 13, 14, 15, 16);
+        b.fill(3, 1, 2, 3, 4, 5, 6, 7, 8, 9, 11, 12, 13, 14, 15, 16);
         CHECKS.due("the 16th line", b.bench.put(3, 0, 17), 16);
         CHECKS.refused("the 17th line", Checks.STATE, () -> b.bench.put(3, 16, 18));
         CHECKS.due("nothing changed", b.text(3), "17 1 2 3 4 5 6 7 8 9 11 12 13 14 15 16");
@@ -72,7 +72,7 @@ public final class TextsTest {
 
     private static void putLooksAtTextThenLineThenRoom() {
         Bench b = new Bench();
-        b.text(0, 1, 1, 1, 1, 1, 1, 1, 1, 1, 1, 1, 1, 1, 1, 1, 1);
+        b.fill(0, 1, 1, 1, 1, 1, 1, 1, 1, 1, 1, 1, 1, 1, 1, 1, 1);
         CHECKS.refused("text below", Checks.INDEX, () -> b.bench.put(-1, 0, 10));
         CHECKS.refused("text above", Checks.INDEX, () -> b.bench.put(4, 0, 10));
         CHECKS.refused("place below", Checks.INDEX, () -> b.bench.put(0, -1, 10));
@@ -83,7 +83,7 @@ public final class TextsTest {
 
     private static void linesAreCut() {
         Bench b = new Bench();
-        b.text(2, 1, 2, 3);
+        b.fill(2, 1, 2, 3);
         CHECKS.due("cut in the middle", b.bench.cut(2, 1), 2);
         CHECKS.due("the rest", b.text(2), "1 3");
         CHECKS.due("cut the last", b.bench.cut(2, 1), 3);
@@ -97,8 +97,8 @@ public final class TextsTest {
 
     private static void textsAreCopied() {
         Bench b = new Bench();
-        b.text(0, 1, 2, 3);
-        b.text(1, 7, 7, 7, 7);
+        b.fill(0, 1, 2, 3);
+        b.fill(1, 7, 7, 7, 7);
         CHECKS.due("copy", b.bench.copy(0, 1), 3);
         CHECKS.due("the copy", b.text(1), "1 2 3");
         b.bench.put(1, 0, 9);
@@ -115,7 +115,7 @@ public final class TextsTest {
 
     private static void linesAreRead() {
         Bench b = new Bench();
-        b.text(1, 5, 0, 50003);
+        b.fill(1, 5, 0, 50003);
         CHECKS.due("length", b.bench.length(1), 3);
         CHECKS.due("line 0", b.bench.lineAt(1, 0), 5);
         CHECKS.due("line 1", b.bench.lineAt(1, 1), 0);
