@@ -573,7 +573,10 @@ public final class PatchBench {
         return madeCount - 1;
     }
 
-    /** A row of numbers with room for so many; it is made once and used again. */
+    /**
+     * A row of numbers with room for so many; it is made once and used again. It never has more numbers than room,
+     * answers NONE outside, and lets no more in when it is full, so that no index is used untested.
+     */
     private static final class Row {
         private final int[] values;
         private int size;
@@ -641,9 +644,9 @@ public final class PatchBench {
         }
 
         void fillWith(int count, int value) {
-            wipe();
-            for (int i = 0; i < count; i++) {
-                add(value);
+            size = Math.max(0, Math.min(count, values.length));
+            for (int i = 0; i < size; i++) {
+                values[i] = value;
             }
         }
 
@@ -802,6 +805,7 @@ public final class PatchBench {
         static final int NUMBERS = 4;
         private static final int LEAST_MOVED = 2;
         private static final int LEAST_ALIKE = 50;
+        private static final int MORE_THAN_INDENTS = 10;
 
         final Row before;
         final Row after;
@@ -837,7 +841,6 @@ public final class PatchBench {
             after.wipe();
             forth.wipe();
             back.wipe();
-            pieces.wipe();
         }
 
         void keep(int line) {
@@ -955,9 +958,10 @@ public final class PatchBench {
         }
 
         private void shiftHunk(int hunk, Row text, int start, int count) {
-            int best = start - reachBack(hunk, text, start, count);
+            int first = start - reachBack(hunk, text, start, count);
             int last = start + reachOn(hunk, text, start, count);
-            for (int place = best; place <= last; place++) {
+            int best = first;
+            for (int place = first; place <= last; place++) {
                 if (awkwardness(text, place) <= awkwardness(text, best)) {
                     best = place;
                 }
@@ -988,7 +992,7 @@ public final class PatchBench {
         private static int awkwardness(Row text, int place) {
             boolean isFree = place == 0 || Lines.isBlank(text.at(place - 1));
             int indent = Lines.indentOf(text.at(place));
-            return isFree ? indent : indent + 10;
+            return isFree ? indent : indent + MORE_THAN_INDENTS;
         }
 
         private void pairAround() {

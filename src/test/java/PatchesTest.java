@@ -62,6 +62,7 @@ public final class PatchesTest {
         made(LEAST, t(1, 1, 2), t(1, 2), "0 1 0 0", "-1 0 1");
         made(UNIQUE, t(3, 4), t(1, 3, 4, 2, 4), "0 0 0 1 | 2 0 3 2", "1 2");
         made(LEAST, t(9, 50001, 10002, 8), t(9, 50001, 10002, 50001, 10002, 8), "3 0 3 2", "0 1 2 5");
+        made(LEAST, t(9, 50001, 2, 8), t(9, 50001, 2, 50001, 2, 8), "3 0 3 2", "0 1 2 5");
         made(LEAST, t(8, 20001, 20001, 20001), t(8, 20001, 20001, 20001, 20001), "4 0 4 1", "0 1 2 3");
         made(LEAST, t(8, 0, 0, 0), t(8, 0, 0, 0, 0), "4 0 4 1", "0 1 2 3");
         // A hunk that drops and adds stays where it is.
@@ -70,11 +71,15 @@ public final class PatchesTest {
         b.fill(0, 3, 4);
         b.fill(1, 1, 3, 4, 2, 4);
         CHECKS.due("compared, it is not shifted", b.compared(0, 1, UNIQUE), "1 4");
+        b.make(LEAST, t(9, 10001, 2, 8), t(9, 10001, 2, 10001, 2, 8));
+        b.bench.invert(0);
+        CHECKS.due("the pairs of the new lines are shifted too", b.pairs(1), "0 1 -1 -1 2 3");
     }
 
     private static void hunksAreNotShiftedAgainstOthers() {
         made(LEAST, t(7, 1, 9), t(8, 0, 1, 1, 9), "0 1 0 2 | 2 0 3 1", "-1 2 4");
         made(LEAST, t(0, 1, 9), t(0, 1, 1, 9), "1 0 1 1", "0 2 3");
+        made(LEAST, t(7, 0, 2, 9), t(8, 0, 2, 0, 2, 9), "0 1 0 1 | 2 0 2 2", "-1 1 4 5");
     }
 
     private static void thereAreTwentyFourPatches() {

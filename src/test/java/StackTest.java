@@ -204,7 +204,12 @@ public final class StackTest {
         b.fill(3, 1, 0, 12, 0, 12, 0, 3);
         CHECKS.due("refresh the other one", b.bench.refresh(3, RARE), 1);
         b.bench.take(0);
-        CHECKS.due("its hunk is shifted", b.hunks(2), "4 0 4 2");
+        CHECKS.due("its hunk", b.hunks(2), "4 0 4 2");
+        Bench c = stack(t(1, 10002, 3), t(3));
+        c.fill(2, 1, 10002, 1, 10002, 3);
+        c.bench.refresh(2, LEAST);
+        c.bench.take(0);
+        CHECKS.due("its hunk is shifted", c.hunks(1), "0 0 0 2");
         b.fill(3, 9, 1, 1, 1, 8);
         b.fill(2, 7, 1, 1, 6);
         b.bench.pop();
