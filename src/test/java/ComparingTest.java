@@ -63,6 +63,9 @@ public final class ComparingTest {
         pairs(UNIQUE, t(9, 1, 2, 3, 4, 8), t(7, 3, 4, 1, 2, 6), "-1 3 4 -1 -1 -1");
         pairs(UNIQUE, t(9, 1, 2, 3, 8), t(7, 1, 3, 2, 6), "-1 1 3 -1 -1");
         pairs(UNIQUE, t(9, 1, 2, 3, 4, 8), t(7, 1, 4, 2, 3, 6), "-1 1 3 4 -1 -1");
+        pairs(UNIQUE, t(4, 1, 2, 3), t(1, 2, 3, 4), "-1 0 1 2");
+        pairs(UNIQUE, t(1, 2, 3, 4), t(4, 1, 2, 3), "1 2 3 -1");
+        pairs(UNIQUE, t(1, 2, 3), t(3, 2, 1), "2 -1 -1");
     }
 
     private static void rareGoesByTheRarestLine() {
@@ -73,6 +76,9 @@ public final class ComparingTest {
         pairs(RARE, t(9, 1, 1, 2, 8), t(7, 1, 5, 1, 2), "-1 1 3 4 -1");
         pairs(RARE, t(1, 2, 1), t(1, 3, 1), "0 -1 2");
         pairs(RARE, t(9, 3, 1, 1, 8), t(7, 1, 1, 3, 1, 6), "-1 3 4 -1 -1");
+        // Ahead of the pairs and behind them it goes on by RARE.
+        pairs(RARE, t(9, 1, 1, 1, 5, 2, 2, 2, 8), t(7, 1, 1, 6, 5, 7, 2, 2, 6), "-1 1 2 -1 4 6 7 -1 -1");
+        pairs(LEAST, t(9, 1, 1, 1, 5, 2, 2, 2, 8), t(7, 1, 1, 6, 5, 7, 2, 2, 6), "-1 -1 1 2 4 -1 6 7 -1");
     }
 
     private static void rareLooksAtLinesThatComeThreeTimesAtMost() {

@@ -149,6 +149,13 @@ public final class PatchesTest {
         joined(t(1, 2, 4, 2), t(1, 9), t(1, 2), "0 1 -1 -1");
         joined(t(3, 1, 4), t(9), t(5, 1, 6), "-1 -1 -1");
         joined(t(), t(1), t(), "");
+        joined(t(1, 2, 3), t(9), t(1, 2, 5), "0 1 -1");
+        joined(t(3, 1, 2), t(9), t(5, 1, 2), "-1 1 2");
+        Bench c = new Bench();
+        c.make(LEAST, t(1, 2, 3, 4), t(1, 9, 4));
+        c.make(LEAST, t(1, 9, 4), t(1, 2, 7, 4));
+        c.bench.join(0, 1);
+        CHECKS.due("the same joined again", c.bench.areEqual(c.bench.join(0, 1), 2), true);
         Bench b = new Bench();
         b.make(LEAST, t(1), t(2));
         b.make(LEAST, t(2), t(3));
@@ -269,6 +276,7 @@ public final class PatchesTest {
         c.bench.split(0, 1, 0, 1, false);
         CHECKS.due("text between", c.lines(1, true), "1 2 3 8 4 5");
         CHECKS.due("pairs of the first part", c.pairs(1), "0 1 2 4 5");
+        CHECKS.due("hunks of the first part", c.hunks(1), "3 0 3 1");
         CHECKS.due("pairs of the second part", c.pairs(2), "0 -1 2 3 -1 4");
         CHECKS.due("hunks of the second part", c.hunks(2), "1 1 1 1 | 4 1 4 0");
     }

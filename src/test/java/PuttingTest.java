@@ -98,6 +98,8 @@ public final class PuttingTest {
                 "0: 32 93: 6 6 6 8 1 6 7 6 6 9");
         put(t(1, 2, 3, 4, 5, 6, 7, 8), t(1, 9, 3, 4, 5, 6, 9, 8), t(5, 5, 1, 2, 3, 4, 5, 6, 7, 8), 0,
                 "0: 30 80: 5 5 1 9 3 4 5 6 9 8");
+        put(t(5, 2, 1, 1, 1, 1, 7), t(5, 8, 1, 1, 1, 1, 9), t(6, 6, 5, 2, 1, 6, 6, 7, 6, 6, 7), 3,
+                "0: 32 73: 6 6 5 8 1 6 6 9 6 6 7");
         // A rejected hunk does not count: what is put next goes by the one put last.
         put(t(2, 1, 4, 1, 1, 7), t(8, 1, 5, 1, 1, 9), t(6, 6, 2, 1, 6, 6, 7), 3,
                 "2: 20 -1 62: 6 6 8 1 6 6 9");
@@ -198,6 +200,8 @@ public final class PuttingTest {
         merged(old, t(1, 8, 3, 4, 5), t(1, 8, 3, 4, 5), "0: 1 8 3 4 5");
         merged(old, t(1, 8, 3, 4, 5), t(1, 8, 3, 9, 5), "0: 1 8 3 9 5");
         merged(old, t(1, 2, 3, 4, 5, 6), t(1, 2, 3, 4, 5, 6), "0: 1 2 3 4 5 6");
+        merged(old, t(1, 8, 9, 3, 4, 5), t(1, 8, 9, 3, 4, 5), "0: 1 8 9 3 4 5");
+        merged(old, t(1, 8, 9, 3, 4, 5), t(1, 8, 7, 3, 4, 5), "1: 1 50001 8 9 50002 8 7 50003 3 4 5");
         // What drops more, or adds the same elsewhere, is not the same.
         merged(old, t(1, 8, 3, 4, 5), t(1, 8, 4, 5), "1: 1 50001 8 3 50002 8 50003 4 5");
         merged(old, t(1, 8, 3, 4, 5), t(1, 8, 8, 3, 4, 5), "1: 1 50001 8 50002 8 8 50003 3 4 5");
@@ -264,6 +268,11 @@ public final class PuttingTest {
         resolved(1, 1, "1 50001 2 3 50002 4 50003 5 50001");
         resolved(1, 2, "1 50001 2 3 50002 4 50003 5 50001 6");
         resolved(1, 3, "1 50001 2 3 50002 4 50003 5 50001 6");
+        Bench b = new Bench();
+        b.fill(1, 50001, 2, 50002, 3, 50003, 50001, 4, 50002, 5, 50003);
+        CHECKS.due("the second one", b.bench.resolve(1, 1, 2), 6);
+        CHECKS.due("the first one then", b.bench.resolve(1, 0, 3), 3);
+        CHECKS.due("what comes of it", b.text(1), "2 3 5");
     }
 
     private static void resolveRefusesWhatIsNotThere() {

@@ -139,6 +139,10 @@ public final class StackTest {
         CHECKS.due("top", c.bench.top(15), 18);
         CHECKS.due("though it needs none", c.bench.needs(1), 0);
         CHECKS.due("and has both orders", c.bench.orders(), 2);
+        Bench d = stack(t(1, 2, 3, 4, 5, 6, 7, 8, 9, 11, 12, 13, 14, 15, 16),
+                t(2, 3, 4, 5, 6, 7, 8, 9, 11, 12, 13, 14, 15, 16),
+                t(2, 3, 4, 5, 6, 7, 8, 9, 11, 12, 13, 14, 15, 16, 18));
+        CHECKS.due("16 lines between", d.bench.swap(0), 1);
         PatchBench x = new PatchBench();
         CHECKS.refused("an empty stack", Checks.INDEX, () -> x.swap(0));
         CHECKS.refused("an empty stack, below", Checks.INDEX, () -> x.swap(-1));
@@ -155,6 +159,17 @@ public final class StackTest {
         b.bench.take(0);
         CHECKS.due("what is the same is paired", b.pairs(4), "0 1 2");
         CHECKS.due("names", b.names(), "0");
+        Bench c = stack(t(1, 2, 3), t(1, 9, 3), t(1, 9, 3, 4), t(7, 1, 9, 3, 4), t(7, 1, 9, 3, 4, 6));
+        CHECKS.due("fold the lowest ones", c.bench.fold(0), 3);
+        CHECKS.due("names", c.names(), "0 2 3");
+        for (int k = 0; k < 3; k++) {
+            c.bench.take(k);
+        }
+        CHECKS.due("the joined one", c.hunks(4), "1 1 1 1 | 3 0 3 1");
+        CHECKS.due("the third", c.bench.areEqual(5, 2), true);
+        CHECKS.due("the fourth", c.bench.areEqual(6, 3), true);
+        CHECKS.due("pop the fourth", c.bench.pop(), 3);
+        CHECKS.due("top", c.top(), "7 1 9 3 4");
         CHECKS.refused("none on it", Checks.INDEX, () -> b.bench.fold(0));
         CHECKS.refused("below", Checks.INDEX, () -> b.bench.fold(-1));
         CHECKS.refused("none", Checks.INDEX, () -> b.bench.fold(1));
@@ -273,6 +288,15 @@ public final class StackTest {
                 t(1, 9, 7, 3, 4, 5, 8, 7), t(1, 9, 7, 6, 3, 4, 5, 8, 7));
         CHECKS.due("the first and the third", c.bench.needs(3), 5);
         CHECKS.due("the first alone", c.bench.needs(2), 1);
+        // Moved past what it does not need, a patch lies otherwise, and is looked at there.
+        Bench d = stack(t(1, 2, 3, 4, 5, 6), t(1, 2, 3, 4, 9, 6), t(2, 3, 4, 9, 6), t(7, 7, 7, 2, 3, 4, 9, 6),
+                t(7, 7, 7, 2, 3, 4, 9, 8, 6));
+        CHECKS.due("what was moved by others", d.bench.needs(3), 1);
+        CHECKS.due("what moved it", d.bench.needs(2), 2);
+        Bench e = stack(t(1, 2, 3, 4, 5, 6), t(1, 2, 3, 4, 5, 9), t(1, 8, 3, 4, 5, 9), t(1, 8, 3, 7, 5, 9),
+                t(1, 8, 6, 7, 5, 9), t(1, 8, 6, 7, 4, 9));
+        CHECKS.due("two that touch it, and two that do not", e.bench.needs(4), 5);
+        CHECKS.due("two groups of one", e.bench.needs(3), 6);
     }
 
     private static void trialsMayHaveLongTexts() {
@@ -300,6 +324,11 @@ public final class StackTest {
                 t(9, 8, 3, 4, 7)).bench.orders(), 3);
         CHECKS.due("of four, two and two", stack(t(1, 2, 3, 4, 5), t(9, 2, 3, 4, 5), t(9, 8, 3, 4, 5),
                 t(9, 8, 3, 4, 7), t(9, 8, 3, 6, 7)).bench.orders(), 6);
+        Bench twice = stack(t(1, 2, 3), t(4, 1, 2, 3), t(4, 1, 2, 3, 5));
+        CHECKS.due("asked once", twice.bench.orders(), 2);
+        CHECKS.due("asked twice", twice.bench.orders(), 2);
+        twice.bench.pop();
+        CHECKS.due("asked of one then", twice.bench.orders(), 1);
         CHECKS.due("of patches without hunks", stack(t(1), t(1), t(1), t(1), t(1)).bench.orders(), 24);
         Bench b = stack(t(1), t(1), t(1), t(1), t(1), t(1));
         CHECKS.refused("of five", Checks.STATE, () -> b.bench.orders());

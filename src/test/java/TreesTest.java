@@ -76,6 +76,7 @@ public final class TreesTest {
         file(b, 1, 5, 1, 2);
         due("the lowest that is left", b, b.bench.difference(0, 1), "3 5 -1 -1 -1 -1");
         due("the other way", b, b.bench.difference(1, 0), "-1 -1 -1 0 -1 1");
+        due("the same asked again", b, b.bench.difference(1, 0), "-1 -1 -1 0 -1 1");
         // A name that both have is not free for another file with the same text.
         file(b, 1, 0, 8);
         file(b, 0, 1, 8);
