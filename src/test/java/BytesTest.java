@@ -14,6 +14,7 @@ public final class BytesTest {
         deltasArePut();
         deltasAreChained();
         aChainCopiesTogetherWhatLiesTogether();
+        aChainNeedsWhatItCopies();
         chainRefusesWhatCantBe();
         thereAreTenDeltas();
         whatIsNotThereIsRefused();
@@ -192,6 +193,21 @@ public final class BytesTest {
         c.bench.delta(1, 2);
         CHECKS.due("the chain", c.steps(c.bench.chain(0, 1)), "2001 2509 2001 1509");
         CHECKS.due("its size", c.bench.sizeOf(2), 11);
+    }
+
+    private static void aChainNeedsWhatItCopies() {
+        Bench b = new Bench();
+        b.fillRow(0, 1, 2, 3, 4, 5);
+        b.fillRow(1, 3, 4, 5, 1, 2, 3);
+        b.fillRow(2, 5, 1, 2);
+        b.bench.delta(0, 1);
+        b.bench.delta(1, 2);
+        CHECKS.due("the chain", b.steps(b.bench.chain(0, 1)), "1004 2000");
+        b.fillRow(3, 11, 12, 13, 14);
+        CHECKS.refused("a row without the place 4", Checks.STATE, () -> b.bench.putDelta(2, 3, 2));
+        b.bench.addByte(3, 15);
+        CHECKS.due("a row with it", b.bench.putDelta(2, 3, 2), 3);
+        CHECKS.due("what it makes", b.row(2), "15 11 12");
     }
 
     private static void chainRefusesWhatCantBe() {

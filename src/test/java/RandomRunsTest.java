@@ -155,8 +155,11 @@ public final class RandomRunsTest {
     }
 
     private int upTo(int count) {
-        int odd = random.nextInt(50);
-        return odd == 0 ? -1 : odd == 1 ? count : count > 0 ? random.nextInt(count) : 0;
+        int odd = random.nextInt(60);
+        if (odd < 4) {
+            return new int[] {-1, count, Integer.MAX_VALUE, Integer.MIN_VALUE}[odd];
+        }
+        return count > 0 ? random.nextInt(count) : 0;
     }
 
     private int text() {
