@@ -1565,7 +1565,7 @@ public final class PatchBench {
     private static final class Putter {
         private static final int MOST_CONTEXT = 3;
         private static final int PER_PLACE = 10;
-        /** A hunk is expected between 16 lines ahead of a text and 32 lines on, so all places lie nearer. */
+        /** No hunk is expected farther than this from any place of a text. */
         private static final int FARTHEST = 4 * MOST_LINES;
 
         final Row answers;
@@ -1621,9 +1621,9 @@ public final class PatchBench {
             for (int lost = 0; lost <= fuzz; lost++) {
                 int start = patch.oldStart(hunk) - Math.max(0, ahead - lost);
                 int end = patch.oldEnd(hunk) + Math.max(0, behind - lost);
-                int shift = nearestFit(patch, hunk, text, start, end, expected, lowest);
-                if (shift != NONE) {
-                    return PER_PLACE * shift + lost;
+                int place = nearestFit(patch, hunk, text, start, end, expected, lowest);
+                if (place != NONE) {
+                    return PER_PLACE * place + lost;
                 }
             }
             return NONE;
@@ -1632,14 +1632,14 @@ public final class PatchBench {
         /** The place for the hunk at which its old lines from start to end stand in the text. */
         private static int nearestFit(
                 Patch patch, int hunk, Row text, int start, int end, int expected, int lowest) {
+            int own = patch.oldStart(hunk);
             for (int far = 0; far <= FARTHEST; far++) {
                 int back = expected - far;
                 int on = expected + far;
-                int shift = back - patch.oldStart(hunk);
-                if (back >= lowest && fits(patch.before, start, end, text, shift)) {
+                if (back >= lowest && fits(patch.before, start, end, text, back - own)) {
                     return back;
                 }
-                if (on >= lowest && fits(patch.before, start, end, text, shift + on - back)) {
+                if (on >= lowest && fits(patch.before, start, end, text, on - own)) {
                     return on;
                 }
             }
