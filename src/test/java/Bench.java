@@ -1,23 +1,56 @@
-/** Fills texts, trees and rows in one line each, and writes them as one line. */
+/** Fills texts, trees and rows in one line each, and writes them as one line, with as few calls as can be. */
 final class Bench {
     final PatchBench bench = new PatchBench();
 
     PatchBench fill(int text, int... lines) {
-        while (bench.length(text) > 0) {
+        int length = bench.length(text);
+        for (int i = 0; i < length; i++) {
             bench.cut(text, 0);
         }
-        for (int line : lines) {
-            bench.put(text, bench.length(text), line);
+        for (int i = 0; i < lines.length; i++) {
+            bench.put(text, i, lines[i]);
         }
         return bench;
     }
 
-    String text(int text) {
+    /** What a call answers for 0, 1 and so on, so many times. */
+    private static String listed(int count, Checks.PlaceCall call) {
         StringBuilder all = new StringBuilder();
-        for (int i = 0; i < bench.length(text); i++) {
-            all.append(i > 0 ? " " : "").append(bench.lineAt(text, i));
+        for (int i = 0; i < count; i++) {
+            all.append(i > 0 ? " " : "").append(call.answer(i));
         }
         return all.toString();
+    }
+
+    /** What a call answers for 0, 1 and so on, up to the first NONE. */
+    private static String listedToNone(Checks.PlaceCall call) {
+        StringBuilder all = new StringBuilder();
+        long answer = call.answer(0);
+        for (int i = 1; answer != PatchBench.NONE; i++) {
+            all.append(i > 1 ? " " : "").append(answer);
+            answer = call.answer(i);
+        }
+        return all.toString();
+    }
+
+    private int oldLength(int patch) {
+        int count = 0;
+        while (bench.lineIn(patch, false, count) != PatchBench.NONE) {
+            count++;
+        }
+        return count;
+    }
+
+    private int topLength() {
+        int count = 0;
+        while (bench.top(count) != PatchBench.NONE) {
+            count++;
+        }
+        return count;
+    }
+
+    String text(int text) {
+        return listed(bench.length(text), place -> bench.lineAt(text, place));
     }
 
     int make(int way, int[] before, int[] after) {
@@ -26,84 +59,70 @@ final class Bench {
         return bench.make(0, 1, way);
     }
 
-    static int[] lines(int... lines) {
-        return lines;
-    }
-
     String lines(int patch, boolean isNew) {
-        StringBuilder all = new StringBuilder();
-        for (int i = 0; bench.lineIn(patch, isNew, i) != PatchBench.NONE; i++) {
-            all.append(i > 0 ? " " : "").append(bench.lineIn(patch, isNew, i));
-        }
-        return all.toString();
+        return listedToNone(place -> bench.lineIn(patch, isNew, place));
     }
 
     /** The hunks as old start, dropped, new start, added. */
     String hunks(int patch) {
         StringBuilder all = new StringBuilder();
-        for (int h = 0; h < bench.hunks(patch); h++) {
-            all.append(h > 0 ? " | " : "");
-            for (int what = 0; what < 4; what++) {
-                all.append(what > 0 ? " " : "").append(bench.hunk(patch, h, what));
-            }
+        int count = bench.hunks(patch);
+        for (int h = 0; h < count; h++) {
+            int hunk = h;
+            all.append(h > 0 ? " | " : "").append(listed(4, what -> bench.hunk(patch, hunk, what)));
         }
         return all.toString();
     }
 
     /** The partners of the old lines, one behind the other. */
     String pairs(int patch) {
-        StringBuilder all = new StringBuilder();
-        for (int i = 0; bench.lineIn(patch, false, i) != PatchBench.NONE; i++) {
-            all.append(i > 0 ? " " : "").append(bench.pairIn(patch, i));
-        }
-        return all.toString();
+        return listed(oldLength(patch), place -> bench.pairIn(patch, place));
     }
 
     String moved(int patch) {
-        StringBuilder all = new StringBuilder();
-        for (int i = 0; bench.lineIn(patch, false, i) != PatchBench.NONE; i++) {
-            all.append(i > 0 ? " " : "").append(bench.movedTo(patch, i));
-        }
-        return all.toString();
+        return listed(oldLength(patch), place -> bench.movedTo(patch, place));
     }
 
     String compared(int text, int other, int way) {
-        StringBuilder all = new StringBuilder();
-        for (int i = 0; i < bench.length(text); i++) {
-            all.append(i > 0 ? " " : "").append(bench.pairOf(text, other, way, i));
-        }
-        return all.toString();
+        return listed(bench.length(text), place -> bench.pairOf(text, other, way, place));
     }
 
     String top() {
-        StringBuilder all = new StringBuilder();
-        for (int i = 0; bench.top(i) != PatchBench.NONE; i++) {
-            all.append(i > 0 ? " " : "").append(bench.top(i));
-        }
-        return all.toString();
+        return listedToNone(bench::top);
     }
 
     String names() {
-        StringBuilder all = new StringBuilder();
-        for (int k = 0; k < bench.height(); k++) {
-            all.append(k > 0 ? " " : "").append(bench.nameAt(k));
-        }
-        return all.toString();
+        return listed(bench.height(), bench::nameAt);
     }
 
     /** Makes a patch from the text of the stack to these lines and pushes it; answers its name. */
     int pushTo(int way, int... lines) {
-        fill(2);
-        for (int i = 0; bench.top(i) != PatchBench.NONE; i++) {
-            bench.put(2, i, bench.top(i));
+        int[] before = new int[topLength()];
+        for (int i = 0; i < before.length; i++) {
+            before[i] = bench.top(i);
         }
+        fill(2, before);
         fill(3, lines);
         return bench.push(bench.make(2, 3, way));
     }
 
+    /** A stack on a base, with a patch by LEAST to each of the texts. */
+    static Bench stacked(int[] base, int[]... texts) {
+        Bench b = new Bench();
+        b.fill(2, base);
+        b.bench.setBase(2);
+        for (int[] text : texts) {
+            b.fill(3, text);
+            b.bench.push(b.bench.make(2, 3, PatchBench.LEAST));
+            b.bench.copy(3, 2);
+        }
+        return b;
+    }
+
     String blames() {
         StringBuilder all = new StringBuilder();
-        for (int i = 0; bench.top(i) != PatchBench.NONE; i++) {
+        int count = topLength();
+        for (int i = 0; i < count; i++) {
             all.append(i > 0 ? " " : "").append(bench.blame(i)).append(":").append(bench.began(i));
         }
         return all.toString();
@@ -118,18 +137,10 @@ final class Bench {
     }
 
     String row(int row) {
-        StringBuilder all = new StringBuilder();
-        for (int i = 0; bench.byteAt(row, i) != PatchBench.NONE; i++) {
-            all.append(i > 0 ? " " : "").append(bench.byteAt(row, i));
-        }
-        return all.toString();
+        return listedToNone(place -> bench.byteAt(row, place));
     }
 
     String steps(int delta) {
-        StringBuilder all = new StringBuilder();
-        for (int i = 0; bench.step(delta, i) != PatchBench.NONE; i++) {
-            all.append(i > 0 ? " " : "").append(bench.step(delta, i));
-        }
-        return all.toString();
+        return listedToNone(step -> bench.step(delta, step));
     }
 }

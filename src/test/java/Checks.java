@@ -5,11 +5,17 @@ final class Checks {
         long answer();
     }
 
+    /** A call that is asked for a place, a step or a name. */
+    interface PlaceCall {
+        long answer(int place);
+    }
+
     static final String INDEX = "IndexOutOfBoundsException";
     static final String ARGUMENT = "IllegalArgumentException";
     static final String STATE = "IllegalStateException";
 
     private final String name;
+    private String sentence = "";
     private int checked;
     private int wrong;
 
@@ -17,12 +23,13 @@ final class Checks {
         this.name = name;
     }
 
+    /** The sentence of the document that the checks from here on are about; it is told with what is wrong. */
+    void says(String words) {
+        sentence = words;
+    }
+
     void due(String what, long got, long want) {
-        checked++;
-        if (got != want) {
-            wrong++;
-            System.out.println(name + ": " + what + " answered " + got + ", due is " + want);
-        }
+        due(what, "" + got, "" + want);
     }
 
     void due(String what, boolean got, boolean want) {
@@ -34,6 +41,9 @@ final class Checks {
         if (!got.equals(want)) {
             wrong++;
             System.out.println(name + ": " + what + " answered " + got + ", due is " + want);
+            if (!sentence.isEmpty()) {
+                System.out.println("    the document: " + sentence);
+            }
         }
     }
 

@@ -33,15 +33,8 @@ public final class StackTest {
         return lines;
     }
 
-    /** A stack on a base with a patch to each of the texts. */
     private static Bench stack(int[] base, int[]... texts) {
-        Bench b = new Bench();
-        b.fill(0, base);
-        b.bench.setBase(0);
-        for (int[] text : texts) {
-            b.pushTo(LEAST, text);
-        }
-        return b;
+        return Bench.stacked(base, texts);
     }
 
     private static void aTextBecomesTheBase() {
